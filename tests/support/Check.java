@@ -48,9 +48,10 @@ final class Check {
 
     /** Lets time pass up to a minute. */
     void until(LineDispatcher x, int minute) {
-        while (x.count(0) < minute) {
-            int n = Math.min(500, minute - x.count(0));
-            due("pass(" + n + ") to " + minute, x.pass(n), x.count(0));
+        for (int time = x.count(0); time < minute; ) {
+            int n = Math.min(500, minute - time);
+            time += n;
+            due("pass(" + n + ") to " + time, x.pass(n), time);
         }
         due("the minute", x.count(0), minute);
     }
