@@ -19,6 +19,8 @@ public final class ExecuteTest {
         orderOfTheReasons();
         allOrNone();
         aNewLine();
+        newTrainsBeginAnew();
+        tenTrains();
         effects();
         CHECK.end();
     }
@@ -236,6 +238,47 @@ public final class ExecuteTest {
         CHECK.text(x, "L4", 1);
         CHECK.due("a shorter line", x.station(2, 0), -1);
         CHECK.due("a shorter line", x.block(1, 0), -1);
+    }
+
+    /** Trains of a new line have nothing from those that had their numbers before. */
+    private static void newTrainsBeginAnew() {
+        LineDispatcher x = CHECK.line("L5,5;S0:1;T0>2p1@0h9;T0>2p1@0h5;T2>0p2@0h4;T2>1p1@0");
+        CHECK.until(x, 60);
+        CHECK.due("it was outside", x.account(1, 0), 2);
+        CHECK.due("it had reliefs", x.train(1, 9), 2);
+        CHECK.due("a train waits", x.count(9), 59);
+        CHECK.text(x, "L5,5", 1);
+        CHECK.due("count(9)", x.count(9), 0);
+        CHECK.due("ahead(9, 2)", x.ahead(9, 2), 0);
+        CHECK.due("ahead(9, 3)", x.ahead(9, 3), 1);
+        CHECK.text(x, "T0>2p1@90;T0>2p1@90;T2>0p1@90;T0>1p1@90", 4);
+        for (int train = 0; train < 4; train++) {
+            CHECK.due("reliefs of " + train, x.train(train, 9), 0);
+            for (int what = 0; what < 5; what++) CHECK.due("account(" + train + ", " + what + ")", x.account(train, what), 0);
+            for (int station = 0; station < 3; station++) {
+                CHECK.due("an arrival of " + train, x.timetable(train, station, 0), -5);
+                CHECK.due("a departure of " + train, x.timetable(train, station, 1), -5);
+            }
+        }
+    }
+
+    private static void tenTrains() {
+        LineDispatcher x = CHECK.line("L5,5;S0:4;S1:4;S2:4;W5;T0>2p1@0;T0>2p2@0;T2>0p3@0h6");
+        CHECK.text(x, "T2>0p4@0;T1>0p5@0;T1>2p6@0h6;T1>2p7@1", 4);
+        CHECK.text(x, "T0>1p8@2;T1>2p9@3;T2>0p0@4", 3);
+        CHECK.due("cancel(9)", x.cancel(9), 1);
+        CHECK.due("plan(300)", x.plan(300), x.plan(300));
+        for (int minute = 4; minute < 100; minute += 4) {
+            CHECK.until(x, minute);
+            CHECK.due("drift()", x.drift(), 0);
+            CHECK.due("conflicts()", x.conflicts(), 0);
+            int trains = 0;
+            for (int station = 0; station < 3; station++) trains += Integer.bitCount(x.station(station, 3));
+            for (int block = 0; block < 2; block++) trains += x.block(block, 1) >= 0 ? 1 : 0;
+            CHECK.due("all nine are somewhere", trains + x.count(3) + x.count(4), 9);
+        }
+        CHECK.due("train(9, 0)", x.train(9, 0), 5);
+        CHECK.due("train(10, 0)", x.train(10, 0), -1);
     }
 
     private static void effects() {

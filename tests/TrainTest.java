@@ -6,6 +6,7 @@ public final class TrainTest {
         wrongNumbers();
         eachState();
         downTheLine();
+        aStateBeginsAnew();
         aNewCrew();
         CHECK.end();
     }
@@ -56,6 +57,17 @@ public final class TrainTest {
         CHECK.until(x, 20);
         properties(x, 0, 4, -5, 1, 0, 0, 480, 13, -5, -5, 0);
         properties(x, 1, 4, -5, 2, 0, 0, 480, 15, -5, -5, 0);
+    }
+
+    private static void aStateBeginsAnew() {
+        LineDispatcher x = CHECK.line("L5,5;T0>2p9@0;T0>1p1@2h10");
+        CHECK.until(x, 5);
+        properties(x, 1, 1, 0, 1, 2, 0, 10, 2, -5, 2, 0);
+        CHECK.until(x, 6);
+        properties(x, 1, 2, 0, 1, 2, 0, 10, 6, 11, 2, 0);
+        LineDispatcher y = CHECK.line("L5,5;T0>2p9@0;T0>1p1@2h8");
+        CHECK.until(y, 6);
+        properties(y, 1, 3, 0, 1, 2, 0, 8, 6, 36, -5, 1);
     }
 
     /** A state begins anew when a relief has ended and the train cannot go on. */

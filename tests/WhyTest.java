@@ -136,6 +136,15 @@ public final class WhyTest {
         why(z, 1, 8, -5);
         why(z, 2, 8, -5);
         CHECK.due("the first in the order", z.order(0), 2);
+        // The order is that of now: train 0 came first, and is ahead as soon as the bound lets it be so.
+        LineDispatcher v = CHECK.line("L5,5;S0:3;S1:1;T0>2p1@1;T0>2p9@3;T1>2p0@0h4");
+        CHECK.until(v, 5);
+        CHECK.text(v, "S1:2", 1);
+        why(v, 0, 7, 1);
+        why(v, 1, 8, -5);
+        CHECK.text(v, "W4", 1);
+        why(v, 0, 8, -5);
+        why(v, 1, 7, 0);
     }
 
     private static void theBlockComesFirst() {
