@@ -268,10 +268,20 @@ public final class ExecuteTest {
         CHECK.text(x, "T0>1p8@2;T1>2p9@3;T2>0p0@4", 3);
         CHECK.due("cancel(9)", x.cancel(9), 1);
         CHECK.due("plan(300)", x.plan(300), x.plan(300));
-        for (int minute = 4; minute < 100; minute += 4) {
+        for (int minute = 5; minute < 60; minute += 9) {
             CHECK.until(x, minute);
             CHECK.due("drift()", x.drift(), 0);
             CHECK.due("conflicts()", x.conflicts(), 0);
+            int longest = 0;
+            int waits = 0;
+            for (int train = 0; train < 9; train++) {
+                int place = x.train(train, 1);
+                boolean isIn = x.train(train, 0) == 1 || x.train(train, 0) == 3;
+                if (isIn) longest = Math.max(longest, minute - x.timetable(train, place, 0));
+                waits += x.account(train, 3);
+            }
+            CHECK.due("count(9)", x.count(9), longest);
+            CHECK.due("ahead(1, 2)", x.ahead(1, 2), waits + x.order(-1));
             int trains = 0;
             for (int station = 0; station < 3; station++) trains += Integer.bitCount(x.station(station, 3));
             for (int block = 0; block < 2; block++) trains += x.block(block, 1) >= 0 ? 1 : 0;
