@@ -23,10 +23,6 @@ public final class PassTest {
         CHECK.end();
     }
 
-    private static void states(LineDispatcher x, int... due) {
-        for (int i = 0; i < due.length; i++) CHECK.due("at " + x.count(0) + " train(" + i + ", 0)", x.train(i, 0), due[i]);
-    }
-
     private static void errors() {
         LineDispatcher x = CHECK.line("L5;T0>1p1@0");
         int[] wrong = {0, -1, 501, Integer.MIN_VALUE, Integer.MAX_VALUE};
@@ -43,7 +39,7 @@ public final class PassTest {
         CHECK.due("pass(500)", x.pass(500), -4);
         CHECK.due("pass(501)", x.pass(501), -2);
         CHECK.due("pass(1)", x.pass(1), 9999);
-        states(x, 1, 2);
+        CHECK.states(x, 1, 2);
         CHECK.due("pass(1)", x.pass(1), -4);
         CHECK.due("count(0)", x.count(0), 9999);
         CHECK.due("a forecast goes on", x.ahead(500, 0), 2);
@@ -60,7 +56,7 @@ public final class PassTest {
         CHECK.until(x, 40);
         CHECK.due("3 + 2 + 40", x.train(0, 7), 85);
         CHECK.until(x, 85);
-        states(x, 4);
+        CHECK.states(x, 4);
     }
 
     private static void slowOrdersAtTheirEdges() {
@@ -76,78 +72,78 @@ public final class PassTest {
     private static void comingIn() {
         LineDispatcher x = CHECK.line("L50;S0:1;T0>1p1@3h9;T0>1p9@0h9;T0>1p1@0h9");
         CHECK.until(x, 1);
-        states(x, 0, 1, 0);
+        CHECK.states(x, 0, 1, 0);
         CHECK.due("station(0, 4)", x.station(0, 4), 1);
         CHECK.text(x, "S0:2", 1);
         CHECK.until(x, 2);
-        states(x, 0, 1, 1);
+        CHECK.states(x, 0, 1, 1);
         CHECK.until(x, 3);
-        states(x, 0, 1, 1);
+        CHECK.states(x, 0, 1, 1);
         CHECK.text(x, "S0:3", 1);
         CHECK.until(x, 4);
-        states(x, 1, 1, 1);
+        CHECK.states(x, 1, 1, 1);
         CHECK.due("train(0, 8)", x.train(0, 8), 4);
         CHECK.due("train(0, 6)", x.train(0, 6), 4);
         CHECK.due("train(2, 6)", x.train(2, 6), 2);
         CHECK.due("station(0, 4)", x.station(0, 4), 3);
         LineDispatcher y = CHECK.line("L5;T0>1p1@7");
         CHECK.until(y, 6);
-        states(y, 0);
+        CHECK.states(y, 0);
         CHECK.until(y, 7);
-        states(y, 2);
+        CHECK.states(y, 2);
     }
 
     /** The train that comes at minute 6 takes its track before the one that is ready outside then. */
     private static void arrivalsComeBeforeTheOthers() {
         LineDispatcher x = CHECK.line("L5,50;S1:1;T1>2p1@6h9;T0>2p1@0");
         CHECK.until(x, 1);
-        states(x, 0, 2);
+        CHECK.states(x, 0, 2);
         CHECK.until(x, 6);
-        states(x, 0, 2);
+        CHECK.states(x, 0, 2);
         CHECK.due("train 1 went on", x.train(1, 1), 1);
         CHECK.until(x, 7);
-        states(x, 1, 2);
+        CHECK.states(x, 1, 2);
         // A train that has ended has let its block go before the trains are looked at.
         LineDispatcher y = CHECK.line("L5;T0>1p1@0;T1>0p1@0");
         CHECK.until(y, 5);
-        states(y, 2, 1);
+        CHECK.states(y, 2, 1);
         CHECK.until(y, 6);
-        states(y, 4, 2);
+        CHECK.states(y, 4, 2);
     }
 
     private static void aTrackFreedIsFreeAtTheNextMinute() {
         LineDispatcher x = CHECK.line("L5;S0:1;T0>1p1@0;T0>1p1@0");
         CHECK.until(x, 1);
-        states(x, 2, 0);
+        CHECK.states(x, 2, 0);
         CHECK.until(x, 2);
-        states(x, 2, 1);
+        CHECK.states(x, 2, 1);
         CHECK.until(x, 6);
-        states(x, 4, 2);
+        CHECK.states(x, 4, 2);
     }
 
     private static void tracksOnTheWay() {
         // Train 0 is on its way to the one track of station 1, so neither train 1 nor train 2 may take it.
         LineDispatcher x = CHECK.line("L9,9;S1:1;T0>2p1@0;T2>0p1@0;T1>0p1@2");
         CHECK.until(x, 1);
-        states(x, 2, 1, 0);
+        CHECK.states(x, 2, 1, 0);
         CHECK.until(x, 9);
-        states(x, 2, 1, 0);
+        CHECK.states(x, 2, 1, 0);
         CHECK.due("why(1, 0)", x.why(1, 0), 5);
         CHECK.due("why(2, 0)", x.why(2, 0), 2);
         CHECK.until(x, 10);
         // Train 0 is in station 1 and runs on into block 1 at once, so train 1 has to wait for the block.
-        states(x, 2, 1, 0);
+        CHECK.states(x, 2, 1, 0);
         CHECK.due("train(0, 1)", x.train(0, 1), 1);
         CHECK.until(x, 11);
-        states(x, 2, 1, 2);
+        CHECK.states(x, 2, 1, 2);
         CHECK.until(x, 19);
-        states(x, 4, 2, 2);
+        CHECK.states(x, 4, 2, 2);
     }
 
     private static void theLastStationNeedsNoTrack() {
         LineDispatcher x = CHECK.line("L5;S1:1;T1>0p1@0h4;T0>1p1@0;T0>1p1@2");
         CHECK.until(x, 20);
-        states(x, 1, 4, 4);
+        CHECK.states(x, 1, 4, 4);
         CHECK.due("station(1, 1)", x.station(1, 1), 1);
         CHECK.due("station(1, 4)", x.station(1, 4), 3);
     }
@@ -155,16 +151,16 @@ public final class PassTest {
     private static void aBlockHoldsOneTrain() {
         LineDispatcher x = CHECK.line("L5,5;T0>2p1@0;T0>2p1@0;T2>0p1@0");
         CHECK.until(x, 1);
-        states(x, 2, 1, 2);
+        CHECK.states(x, 2, 1, 2);
         CHECK.until(x, 5);
-        states(x, 2, 1, 2);
+        CHECK.states(x, 2, 1, 2);
         CHECK.until(x, 6);
         // Trains 0 and 2 meet in station 1, which is full then: train 1, looked at first, cannot go there.
-        states(x, 2, 1, 2);
+        CHECK.states(x, 2, 1, 2);
         CHECK.due("train(0, 1)", x.train(0, 1), 1);
         CHECK.due("train(2, 1)", x.train(2, 1), 0);
         CHECK.until(x, 11);
-        states(x, 4, 2, 4);
+        CHECK.states(x, 4, 2, 4);
         CHECK.due("train(1, 1)", x.train(1, 1), 0);
         CHECK.until(x, 16);
         CHECK.due("train(1, 1)", x.train(1, 1), 1);
@@ -173,11 +169,11 @@ public final class PassTest {
     private static void priorities() {
         LineDispatcher x = CHECK.line("L5;S0:3;T0>1p2@0;T0>1p9@0;T0>1p3@0");
         CHECK.until(x, 1);
-        states(x, 1, 2, 1);
+        CHECK.states(x, 1, 2, 1);
         CHECK.until(x, 6);
-        states(x, 1, 4, 2);
+        CHECK.states(x, 1, 4, 2);
         CHECK.until(x, 11);
-        states(x, 2, 4, 4);
+        CHECK.states(x, 2, 4, 4);
     }
 
     private static void waitingBound() {
@@ -185,49 +181,49 @@ public final class PassTest {
         for (int bound : bounds) {
             LineDispatcher x = CHECK.line("L5;S0:4;W" + bound + ";T0>1p0@0;T0>1p9@0;T0>1p8@0;T0>1p7@7");
             CHECK.until(x, 10);
-            states(x, 1, 4, 2, 1);
+            CHECK.states(x, 1, 4, 2, 1);
             CHECK.until(x, 11);
             // Train 0 came at 1, so it has waited for 10 minutes now.
-            states(x, bound == 10 ? 2 : 1, 4, 4, bound == 10 ? 1 : 2);
+            CHECK.states(x, bound == 10 ? 2 : 1, 4, 4, bound == 10 ? 1 : 2);
         }
         // Both have waited for long, so the priorities count between them.
         LineDispatcher y = CHECK.line("L5;S0:4;W1;T0>1p0@0;T0>1p5@0;T0>1p9@0");
         CHECK.until(y, 6);
-        states(y, 1, 2, 4);
+        CHECK.states(y, 1, 2, 4);
         // The time of a relief counts: train 0 rests from 6 to 16, and has been in station 1 for 10 minutes then.
         LineDispatcher z = CHECK.line("L5,5;S1:3r;W10;T0>2p0@0h9;T1>2p9@16");
         CHECK.until(z, 16);
-        states(z, 2, 1);
+        CHECK.states(z, 2, 1);
     }
 
     private static void whoCameEarlier() {
         LineDispatcher x = CHECK.line("L5;S0:4;T0>1p3@3;T0>1p3@2;T0>1p5@1;T0>1p3@2");
         CHECK.until(x, 5);
-        states(x, 1, 1, 2, 1);
+        CHECK.states(x, 1, 1, 2, 1);
         CHECK.until(x, 6);
-        states(x, 1, 2, 4, 1);
+        CHECK.states(x, 1, 2, 4, 1);
         CHECK.until(x, 11);
-        states(x, 1, 4, 4, 2);
+        CHECK.states(x, 1, 4, 4, 2);
         CHECK.until(x, 16);
-        states(x, 2, 4, 4, 4);
+        CHECK.states(x, 2, 4, 4, 4);
         // A relief does not make a train come later: 0 came at 6 and rests until 16, 1 came at 16.
         LineDispatcher y = CHECK.line("L5,5;S1:3r;T0>2p3@0h9;T1>2p3@16");
         CHECK.until(y, 16);
-        states(y, 2, 1);
+        CHECK.states(y, 2, 1);
     }
 
     private static void aLaterTrainDoesNotLetAnEarlierOneRun() {
         LineDispatcher x = CHECK.line("L5,5;S1:1;T0>2p9@0;T1>2p1@0");
         CHECK.until(x, 1);
         // Train 0 was looked at first, when train 1 had the track of station 1 still.
-        states(x, 1, 2);
+        CHECK.states(x, 1, 2);
         CHECK.due("why(0, 0)", x.why(0, 0), 8);
         CHECK.until(x, 2);
-        states(x, 2, 2);
+        CHECK.states(x, 2, 2);
         // The other way round, the first one lets the second one run in the same minute.
         LineDispatcher y = CHECK.line("L5,5;S1:1;T0>2p1@0;T1>2p9@0");
         CHECK.until(y, 1);
-        states(y, 2, 2);
+        CHECK.states(y, 2, 2);
     }
 
     private static void hours() {
@@ -242,25 +238,25 @@ public final class PassTest {
         // Extra minutes and slow orders count for the crew, too.
         LineDispatcher y = CHECK.line("L5;T0>1p1@0+1h5;T1>0p1@0h5;O0+1@0-9");
         CHECK.until(y, 8);
-        states(y, 1, 1);
+        CHECK.states(y, 1, 1);
         CHECK.until(y, 9);
-        states(y, 1, 3);
+        CHECK.states(y, 1, 3);
         // The waiting counts as well: train 1 may enter at 6 with a crew that began at 1.
         LineDispatcher z = CHECK.line("L5;T0>1p9@0;T0>1p1@0h9");
         CHECK.until(z, 6);
-        states(z, 4, 3);
+        CHECK.states(z, 4, 3);
         LineDispatcher v = CHECK.line("L5;T0>1p9@0;T0>1p1@0h10");
         CHECK.until(v, 6);
-        states(v, 4, 2);
+        CHECK.states(v, 4, 2);
     }
 
     private static void newCrewsAreReadyAtOnce() {
         // The relief ends at 16 ahead of the dispatching of that minute, and train 0 has the higher priority.
         LineDispatcher x = CHECK.line("L5,5;S1:3r;T0>2p3@0h9;T1>2p2@16");
         CHECK.until(x, 15);
-        states(x, 3, 0);
+        CHECK.states(x, 3, 0);
         CHECK.until(x, 16);
-        states(x, 2, 1);
+        CHECK.states(x, 2, 1);
         CHECK.due("train(0, 8)", x.train(0, 8), 16);
     }
 

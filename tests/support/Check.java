@@ -1,16 +1,65 @@
+import java.io.IOException;
+import java.io.UncheckedIOException;
+import java.nio.file.Files;
+import java.nio.file.Path;
+
 /** What the tests share: telling an answer that is not due, and feeding whole texts. */
 final class Check {
     private static final int STATION_COUNT = 1, ABSENT = -5;
 
     private int wrong = 0;
     private int asked = 0;
+    /** The words of the document that the answers are held against, empty where a test names none. */
+    private String sentence = "";
+    private String document = "";
+
+    /** Names the words of the document for the answers that follow; the document must say them still. */
+    void sentence(String words) {
+        if (document.isEmpty()) document = read("../shared/DOC.md").replaceAll("\\s+", " ");
+        sentence = " (\"" + words + "\")";
+        asked++;
+        if (document.contains(words)) return;
+        wrong++;
+        System.out.println("the document does not say" + sentence);
+    }
+
+    private static String read(String file) {
+        try {
+            return Files.readString(Path.of(file));
+        } catch (IOException e) {
+            throw new UncheckedIOException(e);
+        }
+    }
 
     /** Tells a call whose answer is not the one that is due. */
     void due(String call, int got, int want) {
         asked++;
         if (got == want) return;
         wrong++;
-        System.out.println(call + " answered " + got + ", due is " + want);
+        System.out.println(call + " answered " + got + ", due is " + want + sentence);
+    }
+
+    /** What the trains from 0 on are doing. */
+    void states(LineDispatcher x, int... due) {
+        for (int i = 0; i < due.length; i++) due("at " + x.count(0) + " train(" + i + ", 0)", x.train(i, 0), due[i]);
+    }
+
+    /** The trains in the order of dispatching. */
+    void order(LineDispatcher x, int... due) {
+        due("at " + x.count(0) + " order(-1)", x.order(-1), due.length);
+        for (int i = 0; i < due.length; i++) due("at " + x.count(0) + " order(" + i + ")", x.order(i), due[i]);
+    }
+
+    /** Why a train does not run, and the number with that. */
+    void why(LineDispatcher x, int train, int reason, int number) {
+        due("at " + x.count(0) + " why(" + train + ", 0)", x.why(train, 0), reason);
+        due("at " + x.count(0) + " why(" + train + ", 1)", x.why(train, 1), number);
+    }
+
+    /** The drift at a minute. */
+    void drift(LineDispatcher x, int minute, int due) {
+        until(x, minute);
+        due("at " + minute + " drift()", x.drift(), due);
     }
 
     /** Feeds a text, as many bytes at a time as can be. */
@@ -101,7 +150,7 @@ final class Check {
         asked++;
         if (got.equals(want)) return;
         wrong++;
-        System.out.println(what + ": the state is\n" + got + "\ndue is\n" + want);
+        System.out.println(what + sentence + ": the state is\n" + got + "\ndue is\n" + want);
     }
 
     static int absent() {
