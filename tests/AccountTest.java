@@ -84,7 +84,7 @@ public final class AccountTest {
 
     private static void theyAddUp() {
         LineDispatcher x = CHECK.line("L6,9,4;S1:1r;W8;T0>3p2@0h15;T3>0p5@2+1h20;T0>2p7@4");
-        for (int minute = 5; minute < 90; minute += 4) {
+        for (int minute = 5; minute < 95; minute += 9) {
             CHECK.until(x, minute);
             for (int train = 0; train < 3; train++) {
                 int end = x.train(train, 0) == 4 ? x.train(train, 6) : minute;

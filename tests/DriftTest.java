@@ -9,7 +9,6 @@ public final class DriftTest {
         earlier();
         notPlanned();
         outsideItsMinutes();
-        removedTrains();
         CHECK.end();
     }
 
@@ -82,17 +81,5 @@ public final class DriftTest {
         CHECK.due("plan(4)", z.plan(4), 0);
         CHECK.drift(z, 3, 0);
         CHECK.drift(z, 50, 0);
-    }
-
-    private static void removedTrains() {
-        LineDispatcher x = CHECK.line("L5;T0>1p1@3;T0>1p1@20");
-        CHECK.due("plan(15)", x.plan(15), 3);
-        CHECK.due("cancel(0)", x.cancel(0), 1);
-        CHECK.due("cancel(1)", x.cancel(1), 1);
-        CHECK.drift(x, 2, 0);
-        CHECK.drift(x, 3, 2);
-        CHECK.drift(x, 7, 2);
-        CHECK.drift(x, 8, 3);
-        CHECK.drift(x, 50, 3);
     }
 }

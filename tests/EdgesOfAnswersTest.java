@@ -14,6 +14,7 @@ public final class EdgesOfAnswersTest {
         noSlowOrder();
         ordersThatRemain();
         lowerNumbersOfOrders();
+        ordersKeepTheirMinutes();
         states();
         places();
         beginnings();
@@ -42,6 +43,7 @@ public final class EdgesOfAnswersTest {
         itStays();
         noSnapshot();
         everythingButThese();
+        itGoesOnAlike();
         noStationsWithoutALine();
         counts();
         theGreatestNumberOfMinutes();
@@ -136,6 +138,19 @@ public final class EdgesOfAnswersTest {
         }
     }
 
+    private static void ordersKeepTheirMinutes() {
+        CHECK.sentence("Removes a slow order; those behind it get lower numbers");
+        LineDispatcher x = CHECK.line("L5,5;O0+1@1-9;O0+2@3-5;O1+4@4-6");
+        CHECK.due("lift(0)", x.lift(0), 2);
+        int[] first = {0, 0, 0, 2, 2, 0, 0};
+        int[] second = {0, 0, 0, 0, 4, 4, 0};
+        for (int minute = 0; minute < first.length; minute++) {
+            CHECK.until(x, minute);
+            CHECK.due("at " + minute + " block(0, 2)", x.block(0, 2), first[minute]);
+            CHECK.due("at " + minute + " block(1, 2)", x.block(1, 2), second[minute]);
+        }
+    }
+
     private static void states() {
         CHECK.sentence("0 its state: 0 outside, 1 in a station, 2 in a block, 3 in relief, 4 ended, 5 removed");
         properties(0, 3, 4, 2, 1, 0, 5);
@@ -161,23 +176,31 @@ public final class EdgesOfAnswersTest {
         CHECK.until(x, 9);
         CHECK.due("train(1, 6)", x.train(1, 6), 3);
         CHECK.due("train(0, 6)", x.train(0, 6), 1);
+        through(6, 1, 6, 6, 16, 16, 26, 26, 36, 36, 45);
+    }
+
+    /** A train that waits in station 1 from 6 to 16, rests there, waits again from 26 to 36, and ends at 45. */
+    private static void through(int what, int... due) {
+        LineDispatcher x = CHECK.line("L5,9;S1:2r;T0>2p1@0h20;T2>1p1@0+6;T1>2p9@26+1");
+        int[] minutes = {1, 6, 15, 16, 25, 26, 35, 36, 44, 45};
+        int[] states = {2, 1, 1, 3, 3, 1, 1, 2, 2, 4};
+        for (int i = 0; i < minutes.length; i++) {
+            CHECK.until(x, minutes[i]);
+            CHECK.due("at " + minutes[i] + " train(0, 0)", x.train(0, 0), states[i]);
+            CHECK.due("at " + minutes[i] + " train(0, " + what + ")", x.train(0, what), due[i]);
+        }
     }
 
     private static void endings() {
         CHECK.sentence("7 the minute at which it will leave its block or its relief will end, -5 in other states");
         properties(7, 17, -5, 20, -5, -5, -5);
-        // A state without an end follows a block and a relief.
-        LineDispatcher x = CHECK.line("L5,5;S1:2r;T0>2p1@0h9;T2>1p1@14");
-        CHECK.until(x, 16);
-        CHECK.states(x, 1, 2);
-        CHECK.due("behind its relief", x.train(0, 7), -5);
-        CHECK.until(x, 25);
-        CHECK.due("behind its last block", x.train(0, 7), -5);
+        through(7, 6, -5, -5, 26, 26, -5, -5, 45, 45, -5);
     }
 
     private static void crews() {
         CHECK.sentence("8 the minute at which its crew began, -5 outside, in relief, ended and removed");
         properties(8, -5, -5, 11, 4, -5, -5);
+        through(8, 1, 1, 1, -5, -5, 26, 26, 26, 26, -5);
     }
 
     private static void reliefsSoFar() {
@@ -278,7 +301,7 @@ public final class EdgesOfAnswersTest {
 
     private static void minutesUpToThePresent() {
         CHECK.sentence("3 the minutes for which it was taken so far, up to the present");
-        LineDispatcher x = CHECK.line("L5;T0>1p1@3;T1>0p1@3");
+        LineDispatcher x = CHECK.line("L5;T0>1p1@3;T1>0p1@3;T0>1p1@15h1");
         int[] minutes = {2, 3, 4, 7, 8, 9, 13, 14, 50};
         int[] taken = {0, 0, 1, 4, 5, 6, 10, 10, 10};
         int[] entered = {0, 1, 1, 1, 2, 2, 2, 2, 2};
@@ -376,6 +399,7 @@ public final class EdgesOfAnswersTest {
         CHECK.until(x, 11);
         accounts(x, 2, 1, 0, 0, 0, 1);
         CHECK.until(x, 12);
+        accounts(x, 1, 3, 0, 0, 0, 3);
         accounts(x, 2, 1, 1, 0, 0, 2);
         LineDispatcher y = allStates();
         accounts(y, RESTS, 1, 6, 5, 0, 12);
@@ -410,12 +434,12 @@ public final class EdgesOfAnswersTest {
     private static void noAccount() {
         CHECK.sentence("NONE if there is no such train, it was removed, or what is invalid");
         LineDispatcher x = allStates();
-        for (int what = -1; what <= 6; what++) {
-            CHECK.due("account(5, " + what + ")", x.account(REMOVED, what), -1);
-            for (int train : new int[] {-1, 6, 9, 10, FAR[0], FAR[1]}) CHECK.due("account(" + train + ", 0)", x.account(train, 0), -1);
-        }
+        for (int what = -1; what <= 6; what++) CHECK.due("account(5, " + what + ")", x.account(REMOVED, what), -1);
+        for (int train : new int[] {-1, 6, 9, 10, FAR[0], FAR[1]}) CHECK.due("account(" + train + ", 0)", x.account(train, 0), -1);
         for (int train = 0; train < REMOVED; train++) {
-            for (int what : new int[] {-1, 6, FAR[0], FAR[1]}) CHECK.due("account(" + train + ", " + what + ")", x.account(train, what), -1);
+            for (int what : new int[] {-1, 6, FAR[0], FAR[1]}) {
+                CHECK.due("account(" + train + ", " + what + ")", x.account(train, what), -1);
+            }
         }
     }
 
@@ -445,13 +469,14 @@ public final class EdgesOfAnswersTest {
 
     private static void itStays() {
         CHECK.sentence("Restores the snapshot, which stays.");
-        LineDispatcher x = allStates();
+        LineDispatcher x = CHECK.line("L9;T0>1p1@0;T1>0p2@3");
+        CHECK.until(x, 5);
         String before = Check.all(x);
-        CHECK.due("image()", x.image(), 12);
+        CHECK.due("image()", x.image(), 5);
         for (int i = 1; i <= 3; i++) {
             CHECK.text(x, i == 2 ? "L9;T0>1p1@20" : "W9;S0:4;T0>1p1@20", i == 2 ? 2 : 3);
-            CHECK.until(x, 12 + 9 * i);
-            CHECK.due("undo()", x.undo(), 12);
+            CHECK.until(x, 5 + 9 * i);
+            CHECK.due("undo()", x.undo(), 5);
             CHECK.same("after undo " + i, Check.all(x), before);
         }
     }
@@ -489,6 +514,34 @@ public final class EdgesOfAnswersTest {
         CHECK.due("the plan does not come back", x.drift(), -5);
         CHECK.due("the tape stays", x.execute(), 1);
         CHECK.due("count(6)", x.count(6), 8);
+    }
+
+    /** A snapshot knows of each train, each slow order and each station what it needs to go on alike. */
+    private static void itGoesOnAlike() {
+        CHECK.sentence("Restores the snapshot");
+        for (int present : new int[] {0, 1, 5, 7, 12, 20}) {
+            for (int later : new int[] {0, 1, 3, 9, 70}) goesOnAlike(present, present + later);
+        }
+    }
+
+    private static void goesOnAlike(int present, int later) {
+        LineDispatcher x = manyTrains();
+        CHECK.until(x, present);
+        CHECK.due("image()", x.image(), present);
+        CHECK.text(x, "L9,9,9;T3>0p9@" + present + ";O2+9@0-9;S0:1;S1:4", 5);
+        CHECK.due("relief(33)", x.relief(33), 10);
+        CHECK.due("pass(50)", x.pass(50), present + 50);
+        CHECK.due("undo()", x.undo(), present);
+        CHECK.until(x, later);
+        LineDispatcher y = manyTrains();
+        CHECK.until(y, later);
+        CHECK.same("at " + later + " after undo at " + present, Check.all(x), Check.all(y));
+    }
+
+    private static LineDispatcher manyTrains() {
+        LineDispatcher x = CHECK.line("L5,9;S0:4;S1:3r;W9;T0>2p1@0h9;T0>2p2@1h20;T0>1p3@2+1h9");
+        CHECK.text(x, "O0+2@3-8;O1+3@6-20;T2>0p1@4h20", 3);
+        return x;
     }
 
     private static void noStationsWithoutALine() {

@@ -158,7 +158,7 @@ public final class EdgesOfErrorsTest {
         LineDispatcher x = busy();
         LineDispatcher y = busy();
         for (int what = 0; what < 4; what++) x.ahead(200, what);
-        for (int i = 0; i < 3; i++) state(x);
+        state(x);
         CHECK.same("after many questions", state(x), state(y));
         CHECK.until(x, 20);
         CHECK.until(y, 20);

@@ -14,6 +14,7 @@ public final class EdgesOfMinutesTest {
         firstCrews();
         newCrews();
         theOrderDecides();
+        blockOrRelief();
         tracksOfTrainsOnTheirWay();
         aFreeTrackToGoTo();
         oneTrainInABlock();
@@ -39,6 +40,7 @@ public final class EdgesOfMinutesTest {
         noTrackBehindTheBlock();
         minutesAboveTheHours();
         aTrainAhead();
+        anotherTrainAhead();
         noNumber();
         noTrainToAskFor();
         positions();
@@ -193,6 +195,16 @@ public final class EdgesOfMinutesTest {
         CHECK.states(z, 2, 2);
     }
 
+    private static void blockOrRelief() {
+        CHECK.sentence("each one enters its next block if it may, otherwise, if only its crew is the reason, its relief begins");
+        // All three are looked at in minute 6: one may enter, one has a tired crew, one has too few hours.
+        LineDispatcher x = CHECK.line("L5,5,5;S1:3;T0>2p1@0h9;T1>0p1@6;T2>3p1@6h4");
+        CHECK.until(x, 5);
+        CHECK.states(x, 2, 0, 0);
+        CHECK.until(x, 6);
+        CHECK.states(x, 3, 2, 1);
+    }
+
     private static void tracksOfTrainsOnTheirWay() {
         CHECK.sentence("A track of a station is taken by each train in it,"
                 + " and by each train in a block that goes there and does not end there");
@@ -335,13 +347,18 @@ public final class EdgesOfMinutesTest {
 
     private static void theWaitingBound() {
         CHECK.sentence("first the trains that have been in their station for at least the waiting bound");
-        LineDispatcher x = CHECK.line("L5;W10;T0>1p0@0h1;T0>1p9@2h1");
-        CHECK.until(x, 10);
-        CHECK.order(x, 1, 0);
-        CHECK.until(x, 11);
-        CHECK.order(x, 0, 1);
-        CHECK.until(x, 12);
-        CHECK.order(x, 1, 0);
+        for (String trains : new String[] {"T0>1p0@0h1;T0>1p9@5h1", "T0>1p9@5h1;T0>1p0@0h1"}) {
+            int patient = trains.startsWith("T0>1p0") ? 0 : 1;
+            LineDispatcher x = CHECK.line("L5;W10;" + trains);
+            CHECK.until(x, 10);
+            CHECK.order(x, 1 - patient, patient);
+            CHECK.until(x, 11);
+            CHECK.order(x, patient, 1 - patient);
+            CHECK.until(x, 14);
+            CHECK.order(x, patient, 1 - patient);
+            CHECK.until(x, 15);
+            CHECK.order(x, 1 - patient, patient);
+        }
         // It counts from the station in which a train is, not from its first one.
         LineDispatcher y = CHECK.line("L5,5;S1:3;W10;T0>2p0@0h9;T1>2p9@6h1;O1+9@0-99");
         CHECK.until(y, 15);
@@ -471,6 +488,9 @@ public final class EdgesOfMinutesTest {
         CHECK.until(x, 9);
         CHECK.why(x, 1, 2, 0);
         CHECK.why(x, 3, 2, 1);
+        CHECK.until(x, 10);
+        CHECK.why(x, 1, 2, 0);
+        CHECK.why(x, 3, 2, 1);
         CHECK.text(x, "S0:2", 1);
         CHECK.why(x, 1, 1, 0);
         CHECK.why(x, 3, 2, 1);
@@ -553,6 +573,22 @@ public final class EdgesOfMinutesTest {
         CHECK.why(y, 1, 8, -5);
         CHECK.why(y, 2, 8, -5);
         CHECK.why(y, 3, 6, 1);
+    }
+
+    private static void anotherTrainAhead() {
+        CHECK.sentence("as all is now; 8 it may run");
+        // Train 2 keeps the one track of station 1; train 0 came earlier, and train 1 has the higher priority.
+        LineDispatcher x = CHECK.line("L5,5;S1:1;T0>2p1@1;T0>2p9@3;T1>2p0@0h4");
+        CHECK.until(x, 5);
+        CHECK.text(x, "S1:2", 1);
+        CHECK.why(x, 0, 7, 1);
+        CHECK.why(x, 1, 8, -5);
+        CHECK.text(x, "W4", 1);
+        CHECK.why(x, 1, 7, 0);
+        CHECK.why(x, 0, 8, -5);
+        CHECK.text(x, "S1:1", 1);
+        CHECK.why(x, 1, 5, 1);
+        CHECK.why(x, 0, 5, 1);
     }
 
     private static void noNumber() {

@@ -348,8 +348,8 @@ public final class EdgesOfPlansTest {
 
     private static void waitingFromTheBeginning() {
         CHECK.sentence("from their beginnings on, those to come included");
-        LineDispatcher x = CHECK.line("L5;T0>1p9@0;T0>1p1@0;T0>1p1@4");
-        // Train 1 waits from 1 to 6, and train 2 from 4 to 11.
+        LineDispatcher x = CHECK.line("L5;T0>1p1@0;T0>1p9@0;T0>1p1@4");
+        // Train 0 waits from 1 to 6, and train 2 from 4 to 11.
         int[] minutes = {1, 2, 4, 5, 6, 7, 11, 12, 500};
         int[] due = {0, 1, 3, 5, 7, 8, 12, 12, 12};
         for (int i = 0; i < due.length; i++) ahead(x, minutes[i], 2, due[i]);

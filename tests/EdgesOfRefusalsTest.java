@@ -6,6 +6,8 @@ public final class EdgesOfRefusalsTest {
     public static void main(String[] args) {
         inTheirOrder();
         aNewLine();
+        newTrainsBeginAnew();
+        tracksAndRelief();
         extra();
         hours();
         minutesOfASlowOrder();
@@ -74,6 +76,36 @@ public final class EdgesOfRefusalsTest {
         CHECK.due("none has come", x.station(0, 4), 0);
         CHECK.due("none has entered", x.block(0, 4), 0);
         CHECK.due("it was not taken", x.block(0, 3), 0);
+    }
+
+    /** What trains have had under their numbers on the old line is nothing to those of a new one. */
+    private static void newTrainsBeginAnew() {
+        CHECK.sentence("makes a new line with blocks of these lengths; all trains and slow orders are removed");
+        LineDispatcher x = CHECK.line("L5,5;S0:1;T0>2p1@0h9;T0>2p1@0h5;T2>0p2@0h4");
+        CHECK.until(x, 60);
+        CHECK.due("it waited outside", x.account(1, 0), 2);
+        CHECK.due("it had reliefs", x.train(1, 9), 2);
+        CHECK.text(x, "L5,5;T0>2p1@90;T0>2p1@90;T2>0p1@90", 4);
+        for (int train = 0; train < 3; train++) {
+            int[] due = {0, -5, 1, 90, 0, 480, 90, -5, -5, 0};
+            for (int what = 0; what < 10; what++) CHECK.due("train(" + train + ", " + what + ")", x.train(train, what), due[what]);
+            for (int what = 0; what < 5; what++) CHECK.due("account(" + train + ", " + what + ")", x.account(train, what), 0);
+            for (int i = 0; i < 6; i++) CHECK.due("timetable(" + train + ", ..)", x.timetable(train, i % 3, i / 3), -5);
+        }
+    }
+
+    private static void tracksAndRelief() {
+        CHECK.sentence("S gives a station tracks, 1 to 4, and makes it a relief station, or none without r.");
+        LineDispatcher x = CHECK.line("L5");
+        String[] texts = {"S0:1", "S0:4r", "S0:0", "S0:5r", "S0:3", "S0:3r", "S0:3r"};
+        int[] tracks = {1, 4, 4, 4, 3, 3, 3};
+        int[] relief = {0, 1, 1, 1, 0, 1, 1};
+        for (int i = 0; i < texts.length; i++) {
+            CHECK.text(x, texts[i], i == 2 || i == 3 ? -200 : 1);
+            CHECK.due("the tracks after " + texts[i], x.station(0, 0), tracks[i]);
+            CHECK.due("the relief after " + texts[i], x.station(0, 2), relief[i]);
+            CHECK.due("the other station", x.station(1, 0), 2);
+        }
     }
 
     private static void extra() {

@@ -133,6 +133,7 @@ public final class EdgesOfTextsTest {
             int at = form.indexOf('#');
             for (char place = '0'; place <= '7'; place++) right(form.replace('#', place));
             for (char other : new char[] {'/', '8', '9', ':', 'a', ' '}) wrong(form.replace('#', other), at);
+            wrong(form.replace("#", ""), at);
             wrong(form.replace("#", "00"), at + 1);
             wrong(form.replace("#", "-1"), at);
         }
@@ -144,6 +145,7 @@ public final class EdgesOfTextsTest {
             int at = form.indexOf('#');
             for (char digit = '0'; digit <= '9'; digit++) right(form.replace('#', digit));
             for (char other : new char[] {'/', ':', ';', 'a', ' '}) wrong(form.replace('#', other), at);
+            wrong(form.replace("#", ""), at);
             wrong(form.replace("#", "10"), at + 1);
             wrong(form.replace("#", "00"), at + 1);
         }
@@ -155,7 +157,11 @@ public final class EdgesOfTextsTest {
             int at = form.indexOf('#');
             for (String number : new String[] {"1", "12", "123", "1234", "9999"}) right(form.replace("#", number));
             wrong(form.replace("#", ""), at);
-            for (char other : new char[] {'/', ':', 'a', ' '}) wrong(form.replace('#', other), at);
+            for (char other : new char[] {'/', ':', 'a', ' '}) {
+                wrong(form.replace('#', other), at);
+                wrong(form.replace("#", "1" + other), at + 1);
+                wrong(form.replace("#", "123" + other), at + 3);
+            }
             wrong(form.replace("#", "12345"), at + 4);
             wrong(form.replace("#", "10000"), at + 4);
         }

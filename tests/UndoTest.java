@@ -6,6 +6,7 @@ public final class UndoTest {
     public static void main(String[] args) {
         noSnapshot();
         everythingComesBack();
+        theOldLineComesBack();
         whatFollowsIsTheSame();
         itStays();
         whatItDoesNotContain();
@@ -24,11 +25,16 @@ public final class UndoTest {
         CHECK.due("the plan stays", x.drift(), 0);
     }
 
-    private static void everythingComesBack() {
+    private static LineDispatcher slowed() {
         LineDispatcher x = CHECK.line(BUSY);
         CHECK.text(x, "O0+1@0-99;O1+2@0-99", 2);
         CHECK.until(x, 13);
         CHECK.due("relief(7)", x.relief(7), 10);
+        return x;
+    }
+
+    private static void everythingComesBack() {
+        LineDispatcher x = slowed();
         String before = Check.all(x);
         CHECK.due("image()", x.image(), 13);
         CHECK.text(x, "W3;S0:4r;S2:3;T0>1p1@99;O2+5@1-99", 5);
@@ -38,6 +44,12 @@ public final class UndoTest {
         CHECK.until(x, 300);
         CHECK.due("undo()", x.undo(), 13);
         CHECK.same("after undo", Check.all(x), before);
+    }
+
+    private static void theOldLineComesBack() {
+        LineDispatcher x = slowed();
+        String before = Check.all(x);
+        CHECK.due("image()", x.image(), 13);
         CHECK.text(x, "L5;T1>0p1@20", 2);
         CHECK.until(x, 60);
         CHECK.due("undo()", x.undo(), 13);
@@ -61,7 +73,7 @@ public final class UndoTest {
         CHECK.until(x, 6);
         String before = Check.all(x);
         CHECK.due("image()", x.image(), 6);
-        for (int i = 0; i < 3; i++) {
+        for (int i = 0; i < 2; i++) {
             CHECK.until(x, 20 + i);
             CHECK.text(x, "W9", 1);
             CHECK.due("undo()", x.undo(), 6);

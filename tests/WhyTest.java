@@ -6,7 +6,6 @@ public final class WhyTest {
         wrongNumbers();
         outside();
         noTrackAtFirst();
-        reliefs();
         blocksAndTracks();
         hours();
         mayRun();
@@ -48,16 +47,6 @@ public final class WhyTest {
         CHECK.why(x, 1, 1, 0);
         CHECK.until(x, 3);
         CHECK.why(x, 1, 0, -5);
-    }
-
-    private static void reliefs() {
-        LineDispatcher x = CHECK.line("L5,5;S1:2r;T0>2p1@0h9");
-        CHECK.until(x, 6);
-        CHECK.why(x, 0, 3, 10);
-        CHECK.until(x, 15);
-        CHECK.why(x, 0, 3, 1);
-        CHECK.until(x, 16);
-        CHECK.why(x, 0, 0, -5);
     }
 
     private static void blocksAndTracks() {

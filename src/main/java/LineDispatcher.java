@@ -13,8 +13,13 @@ public final class LineDispatcher {
 
     private static final int MOST_STATIONS = 8, MOST_BLOCKS = 7, MOST_TRAINS = 10, MOST_ORDERS = 6;
     private static final int MOST_TRACKS = 4, MOST_LENGTH = 99;
-    private static final int MOST_BYTES = 60, MOST_COMMANDS = 20, MOST_SIGN = 127;
+    private static final int MOST_BYTES = 60, MOST_COMMANDS = 20, MOST_SIGN = 127, MOST_FED = 5;
+    /** The greatest station or block and the greatest digit that a text can name, and the digits of a number. */
+    private static final int LAST_PLACE = 7, LAST_DIGIT = 9, MOST_DIGITS = 4;
     private static final int MOST_MINUTES = 500, LAST_MINUTE = 9999, MOST_RELIEF = 60;
+
+    /** What holds as long as no call says anything else. */
+    private static final int FIRST_BOUND = 60, FIRST_RELIEF = 10, FIRST_TRACKS = 2, USUAL_HOURS = 480;
 
     private static final int OUTSIDE = 0, WAITING = 1, RUNNING = 2, RESTING = 3, ENDED = 4, REMOVED = 5;
     private static final int ARRIVAL = 0, DEPARTURE = 1;
@@ -50,7 +55,7 @@ public final class LineDispatcher {
 
     public int feed(int n, int a, int b, int c, int d, int e) {
         boolean allBytes = isByte(a) && isByte(b) && isByte(c) && isByte(d) && isByte(e);
-        if (n < 1 || n > 5 || !allBytes) return BAD;
+        if (n < 1 || n > MOST_FED || !allBytes) return BAD;
         if (tape.length + n > MOST_BYTES) return FULL;
         tape.append(a);
         if (n >= 2) tape.append(b);
@@ -451,8 +456,8 @@ public final class LineDispatcher {
     /** All that a snapshot contains: the line, its trains, its slow orders, the parameters and the time. */
     private static final class Line {
         int time = 0;
-        int bound = 60;
-        int reliefMinutes = 10;
+        int bound = FIRST_BOUND;
+        int reliefMinutes = FIRST_RELIEF;
         int stationCount = 0;
         int trainCount = 0;
         int orderCount = 0;
@@ -933,31 +938,31 @@ public final class LineDispatcher {
         }
 
         boolean readStation(Command command) {
-            command.place = readDigit(7);
+            command.place = readDigit(LAST_PLACE);
             if (command.place < 0 || !take(':')) return false;
-            command.digit = readDigit(9);
+            command.digit = readDigit(LAST_DIGIT);
             if (command.digit < 0) return false;
             command.givesRelief = take('r');
             return true;
         }
 
         boolean readTrain(Command command) {
-            command.place = readDigit(7);
+            command.place = readDigit(LAST_PLACE);
             if (command.place < 0 || !take('>')) return false;
-            command.goal = readDigit(7);
+            command.goal = readDigit(LAST_PLACE);
             if (command.goal < 0 || !take('p')) return false;
-            command.digit = readDigit(9);
+            command.digit = readDigit(LAST_DIGIT);
             if (command.digit < 0 || !take('@')) return false;
             command.minute = readNumber();
             if (command.minute < 0) return false;
-            command.extra = take('+') ? readDigit(9) : 0;
+            command.extra = take('+') ? readDigit(LAST_DIGIT) : 0;
             if (command.extra < 0) return false;
-            command.hours = take('h') ? readNumber() : 480;
+            command.hours = take('h') ? readNumber() : USUAL_HOURS;
             return command.hours >= 0;
         }
 
         boolean readOrder(Command command) {
-            command.place = readDigit(7);
+            command.place = readDigit(LAST_PLACE);
             if (command.place < 0 || !take('+')) return false;
             command.amount = readNumber();
             if (command.amount < 0 || !take('@')) return false;
@@ -993,10 +998,10 @@ public final class LineDispatcher {
 
         /** A number, or -1 if there is none. */
         int readNumber() {
-            int value = readDigit(9);
+            int value = readDigit(LAST_DIGIT);
             if (value <= 0) return value;
-            for (int i = 1; i < 4; i++) {
-                int next = readDigit(9);
+            for (int i = 1; i < MOST_DIGITS; i++) {
+                int next = readDigit(LAST_DIGIT);
                 if (next < 0) return value;
                 value = 10 * value + next;
             }
@@ -1074,7 +1079,7 @@ public final class LineDispatcher {
             line.trainCount = 0;
             line.orderCount = 0;
             for (int i = 0; i < MOST_STATIONS; i++) {
-                line.stops[i].tracks = 2;
+                line.stops[i].tracks = FIRST_TRACKS;
                 line.stops[i].givesRelief = false;
                 line.stops[i].comings = 0;
             }
