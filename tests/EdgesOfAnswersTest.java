@@ -528,7 +528,9 @@ public final class EdgesOfAnswersTest {
         LineDispatcher x = manyTrains();
         CHECK.until(x, present);
         CHECK.due("image()", x.image(), present);
-        CHECK.text(x, "L9,9,9;T3>0p9@" + present + ";O2+9@0-9;S0:1;S1:4", 5);
+        String other = ";T3>1p9@" + (present + 1) + "+7h77";
+        CHECK.text(x, "L8,8,8" + other + other + other, 4);
+        CHECK.text(x, other.substring(1) + ";O2+9@0-9;O2+7@9-99;S0:1;S1:4;W33", 6);
         CHECK.due("relief(33)", x.relief(33), 10);
         CHECK.due("pass(50)", x.pass(50), present + 50);
         CHECK.due("undo()", x.undo(), present);
