@@ -7,6 +7,8 @@ import java.io.File;
 import java.lang.reflect.Field;
 import java.lang.reflect.Method;
 import java.lang.reflect.Modifier;
+import java.nio.charset.StandardCharsets;
+import java.nio.file.Files;
 import java.util.*;
 import javax.lang.model.element.Element;
 import javax.lang.model.element.ElementKind;
@@ -29,6 +31,10 @@ public final class FormTest {
             Tree.Kind.TYPE_CAST, Tree.Kind.INSTANCE_OF, Tree.Kind.SWITCH_EXPRESSION, Tree.Kind.NULL_LITERAL,
             Tree.Kind.WHILE_LOOP, Tree.Kind.DO_WHILE_LOOP);
 
+    private static final String OWN_CLASS = "LineDispatcher(\\.[A-Za-z]+)?";
+    /** The types of what the program needs: numbers, truth, its own classes, and rows of these. */
+    private static final String TYPE = "void|boolean|int(\\[\\]){0,2}|" + OWN_CLASS + "(\\[\\])?";
+
     private static final Set<String> METHODS = Set.of("feed(int,int,int,int,int,int)", "execute()", "refusal(int)", "relief(int)",
             "cancel(int)", "lift(int)", "pass(int)", "train(int,int)", "station(int,int)", "block(int,int)", "why(int,int)",
             "order(int)", "plan(int)", "timetable(int,int,int)", "drift()", "ahead(int,int)", "held(int,int)", "conflicts()",
@@ -43,13 +49,18 @@ public final class FormTest {
 
     public static void main(String[] args) throws Exception {
         face();
+        signs();
         JavaCompiler compiler = ToolProvider.getSystemJavaCompiler();
         try (StandardJavaFileManager files = compiler.getStandardFileManager(null, null, null)) {
             JavacTask task = (JavacTask) compiler.getTask(null, files, null, List.of("-proc:none"), null, files.getJavaFileObjects(PROGRAM));
             Iterable<? extends CompilationUnitTree> units = task.parse();
             task.analyze();
             Look look = new Look(Trees.instance(task));
-            for (CompilationUnitTree unit : units) look.scan(new TreePath(unit), null);
+            for (CompilationUnitTree unit : units) {
+                if (unit.getPackageName() != null) fault("a package line");
+                if (unit.getTypeDecls().size() != 1) fault("more than one class outside");
+                look.scan(new TreePath(unit), null);
+            }
             look.end();
         }
         if (wrong != 0) System.exit(1);
@@ -75,6 +86,14 @@ public final class FormTest {
         Set<String> constants = new HashSet<>();
         for (Field f : face.getDeclaredFields()) if (!Modifier.isPrivate(f.getModifiers())) constants.add(f.getName());
         if (!constants.equals(Set.of("NONE", "BAD", "STATE", "FULL"))) fault("the constants are " + constants);
+    }
+
+    /** In the comments, too, so that the file reads alike in every encoding. */
+    private static void signs() throws Exception {
+        String text = Files.readString(PROGRAM.toPath(), StandardCharsets.ISO_8859_1);
+        for (int i = 0; i < text.length(); i++) {
+            if (text.charAt(i) < 1 || text.charAt(i) > 127) fault("the sign " + (int) text.charAt(i) + " at " + i);
+        }
     }
 
     private static final class Look extends TreePathScanner<Void, Void> {
@@ -111,9 +130,7 @@ public final class FormTest {
         @Override public Void visitClass(ClassTree tree, Void nothing) {
             classes++;
             int fields = 0;
-            boolean isInside = getCurrentPath().getParentPath().getLeaf().getKind() == Tree.Kind.CLASS;
-            Set<javax.lang.model.element.Modifier> flags = tree.getModifiers().getFlags();
-            if (isInside && !flags.contains(javax.lang.model.element.Modifier.STATIC)) fault(place(tree) + "a class that is not static");
+            if (getCurrentPath().getParentPath().getLeaf().getKind() != Tree.Kind.COMPILATION_UNIT) classInside(tree);
             for (Tree member : tree.getMembers()) {
                 if (member.getKind() == Tree.Kind.BLOCK) fault(place(member) + "a block in a class");
                 if (!(member instanceof VariableTree)) continue;
@@ -127,7 +144,40 @@ public final class FormTest {
             return super.visitClass(tree, nothing);
         }
 
+        private void classInside(ClassTree tree) {
+            Set<javax.lang.model.element.Modifier> flags = tree.getModifiers().getFlags();
+            if (getCurrentPath().getParentPath().getLeaf().getKind() != Tree.Kind.CLASS) fault(place(tree) + "a class in a method");
+            if (!flags.contains(javax.lang.model.element.Modifier.STATIC)) fault(place(tree) + "a class that is not static");
+            if (flags.contains(javax.lang.model.element.Modifier.PUBLIC)) fault(place(tree) + "a public class inside");
+            if (flags.contains(javax.lang.model.element.Modifier.PROTECTED)) fault(place(tree) + "a protected class inside");
+        }
+
+        /** The types of fields, parameters and what stands in methods. */
+        @Override public Void visitVariable(VariableTree tree, Void nothing) {
+            String type = element().asType().toString();
+            if (!type.matches(TYPE)) fault(place(tree) + "the type " + type);
+            for (javax.lang.model.element.Modifier flag : tree.getModifiers().getFlags()) {
+                if (flag == javax.lang.model.element.Modifier.VOLATILE || flag == javax.lang.model.element.Modifier.TRANSIENT) fault(place(tree) + flag);
+            }
+            return super.visitVariable(tree, nothing);
+        }
+
+        @Override public Void visitAnnotation(AnnotationTree tree, Void nothing) {
+            fault(place(tree) + "an annotation");
+            return super.visitAnnotation(tree, nothing);
+        }
+
+        /** A private method must not bear the name of a public one, in the classes inside neither. */
+        private void nameAndType(MethodTree tree) {
+            boolean isPublic = tree.getModifiers().getFlags().contains(javax.lang.model.element.Modifier.PUBLIC);
+            boolean isNamed = METHODS.stream().anyMatch(method -> method.startsWith(tree.getName() + "("));
+            if (isNamed && !isPublic) fault(place(tree) + "the name of a public method, " + tree.getName());
+            String type = ((ExecutableElement) element()).getReturnType().toString();
+            if (!type.matches(TYPE)) fault(place(tree) + "the type " + type);
+        }
+
         @Override public Void visitMethod(MethodTree tree, Void nothing) {
+            nameAndType(tree);
             if (tree.getParameters().size() > MOST_PARAMETERS) fault(place(tree) + "too many parameters");
             CompilationUnitTree unit = getCurrentPath().getCompilationUnit();
             long first = unit.getLineMap().getLineNumber(trees.getSourcePositions().getStartPosition(unit, tree));
